@@ -405,8 +405,8 @@ public final class ShortStraw {
             return CAST;
         }
         for (int d = 0; d < winter.drawers; d++) {
-            // ahead of the sum, which would wrap for an i near the greatest int
-            if (i < 0 || i >= row.length || !row.has(i + d)) {
+            // an i that is no place ends it at the first drawer, so the sum is never far from the row
+            if (!row.has(i + d)) {
                 return 100 + d;
             }
             if (row.items[i + d] != winter.sents[d]) {
@@ -1070,23 +1070,22 @@ public final class ShortStraw {
             return false;
         }
 
+        /** An F; a ( or ! that is nested too deep begins no test either, so that the fault is at it. */
         private boolean readsFactor(int nested) {
-            boolean isNot = text[at] == '!';
-            if (!isNot && text[at] != '(') {
-                return readsTest();
+            int deeper = nested;
+            while (deeper < NESTED_MOST && reads('!')) {
+                deeper++;
             }
-            if (nested >= NESTED_MOST) {
-                return false;
+            boolean isRead;
+            if (deeper < NESTED_MOST && reads('(')) {
+                isRead = readsEither(deeper + 1) && reads(')');
+            } else {
+                isRead = readsTest();
             }
-            at++;
-            if (!isNot) {
-                return readsEither(nested + 1) && reads(')');
+            for (int nots = deeper - nested; isRead && nots > 0; nots--) {
+                keep(Hut.NOT);
             }
-            if (!readsFactor(nested + 1)) {
-                return false;
-            }
-            keep(Hut.NOT);
-            return true;
+            return isRead;
         }
 
         private boolean readsTest() {
@@ -1180,7 +1179,10 @@ public final class ShortStraw {
             }
             int body = bodyOf(from, act);
             keep(body);
-            int deeper = depth + 1;
+            return work(body, x, depth + 1);
+        }
+
+        private int work(int body, int x, int deeper) {
             switch (body) {
                 case 10: return x + number;
                 case 11: return run(kind, DRAWS, x, deeper) - v;

@@ -126,6 +126,9 @@ public final class DrawersTest {
         Check.due("n below", straw.row(0, 0, -1), ShortStraw.BAD);
         Check.due("n above, another kind", straw.row(1, 0, 10), ShortStraw.BAD);
         Check.due("another kind", straw.row(1, 0, 1), ShortStraw.STATE);
+        Check.due("n least", straw.row(0, 3, 0), 5);
+        Check.due("n greatest", straw.row(0, 3, 9), 0);
+        Check.due("as at first", straw.row(0, 3, 5), 9);
         for (int part = 0; part < 4; part++) {
             Check.due("row at first", straw.row(0, part, 9 - part), 5);
             Check.due("row then", straw.row(0, part, 9 - part), 9 - part);

@@ -113,12 +113,30 @@ public final class LikelyTest {
         Check.due("k below", straw.best(-2), ShortStraw.NONE);
         straw.drawer(3, 0);
         straw.drawer(3, 0);
+        bestOfFive();
         Check.due("five", straw.best(4), 0);
         straw.drawer(3, 0);
         for (int k = -1; k < 5; k++) {
             Check.due("six", straw.best(k), -9);
         }
         Check.due("six, k above", straw.best(5), ShortStraw.NONE);
+    }
+
+    /** With one short one, who knows it must be last, and the huts tell where the others are most even. */
+    private static void bestOfFive() {
+        ShortStraw straw = new ShortStraw();
+        straw.drawer(4, 0);
+        straw.drawer(0, 0);
+        straw.drawer(0, 0);
+        straw.drawer(0, 0);
+        straw.drawer(0, 0);
+        Check.hut(straw, "shy 99 d=1&!p=3;shy 99 d=2&!p=2;shy 99 d=3&!p=1;shy 99 d=4&!p=0", 0);
+        int[] want = {4, 3, 2, 1, 0};
+        for (int k = 0; k < 5; k++) {
+            Check.due("told by the hut " + k, straw.best(k), want[k]);
+        }
+        // 200000 and what is cut away of it
+        Check.due("told by the hut, even", straw.best(-1), 2);
     }
 
     /** Of orders that are as even the first as a row, whatever THE ORDER is. */
@@ -168,6 +186,7 @@ public final class LikelyTest {
         Check.due("nobody", straw.enough(2, 0), ShortStraw.NONE);
         Check.due("q below", straw.enough(0, -1), ShortStraw.BAD);
         Check.due("q above", straw.enough(0, 1000001), ShortStraw.BAD);
+        Check.due("never by blind ones", straw.enough(0, 0), -5);
         Check.due("none more", straw.enough(0, 500000), 0);
         Check.due("one more", straw.enough(0, 499999), 1);
         Check.due("one more is just enough", straw.enough(0, 333333), 1);

@@ -53,6 +53,7 @@ public final class WintersTest {
         Check.due("what below", straw.most(-1), ShortStraw.NONE);
         Check.due("what above", straw.most(2), ShortStraw.NONE);
         Check.due("one", sent(4).most(1), 0);
+        Check.due("the last is fewest", sent(5, 9, 2).most(1), 7);
         Check.due("the first is fewest", sent(0, 9).most(1), 9);
     }
 }
