@@ -2,6 +2,7 @@
 final class Check {
     private static int wrong = 0;
     private static int looked = 0;
+    private static String sentence = "";
 
     private Check() {
     }
@@ -10,8 +11,19 @@ final class Check {
         looked++;
         if (got != want) {
             wrong++;
-            System.out.println(call + " answered " + got + ", due is " + want);
+            System.out.println(sentence + call + " answered " + got + ", due is " + want);
         }
+    }
+
+    /** A test of its own for one sentence of the document; one that looks at no answer fails. */
+    static void sentence(String words, Runnable test) {
+        sentence = "[" + words + "] ";
+        int before = looked;
+        test.run();
+        if (looked == before) {
+            due("answers looked at", 0, 1);
+        }
+        sentence = "";
     }
 
     /** Ends the test's own machine, as .ci/run wants it. */
