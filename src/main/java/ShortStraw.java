@@ -254,7 +254,7 @@ public final class ShortStraw {
         return who;
     }
 
-    // ---- coins, dice
+    // ---- coins, dice; part 0 above, 1 below the line
 
     public long coin(int p, int m, int part) {
         if (p < 1 || p > COIN_MOST || !isChosen(m) || !isPart(part)) {
